@@ -1,0 +1,54 @@
+/** Promises 2 and 3: feed, end. */
+public final class TapeTest {
+    private static final int BLANKS = 0x20202020;
+
+    public static void main(String[] args) {
+        Due due = new Due("TapeTest");
+        highestByteFirst(due);
+        atMostFourHundred(due);
+        endKeepsTheFirst(due);
+        due.end();
+    }
+
+    private static void highestByteFirst(Due due) {
+        FireTax x = new FireTax();
+        due.is("feed", x.feed(0x64756368, 0x79203020, 0x30203020, BLANKS, BLANKS), 20);
+        due.is("bytes", x.count(15), 20);
+        due.is("duchy 0 0 0", x.duchy(), 0);
+        due.is("empty then", x.count(15), 0);
+        due.is("feed of high bytes", x.feed(0xff000000, 0, 0, 0, 0), 20);
+        due.is("a byte 255", x.duchy(), Due.fault(0, 0));
+    }
+
+    private static void atMostFourHundred(Due due) {
+        FireTax x = new FireTax();
+        for (int i = 1; i <= 20; i++) {
+            due.is("feed " + i, x.feed(i, i, i, i, i), 20 * i);
+        }
+        due.is("feed 21", x.feed(0, 0, 0, 0, 0), -1);
+        due.is("none came", x.count(15), 400);
+        due.is("end 381", x.end(381), 381);
+        due.is("feed behind 381", x.feed(0, 0, 0, 0, 0), -1);
+        due.is("none came behind 381", x.count(15), 381);
+        due.is("end 380", x.end(380), 380);
+        due.is("feed behind 380", x.feed(0, 0, 0, 0, 0), 400);
+    }
+
+    private static void endKeepsTheFirst(Due due) {
+        FireTax x = new FireTax();
+        due.is("end 1 of none", x.end(1), -1);
+        due.is("end 0 of none", x.end(0), 0);
+        Due.tell(x, "duchy 1 2 3;house 4 5 6");
+        due.is("end -1", x.end(-1), -1);
+        due.is("end least", x.end(Integer.MIN_VALUE), -1);
+        due.is("end too far", x.end(24), -1);
+        due.is("end most", x.end(Integer.MAX_VALUE), -1);
+        due.is("nothing happened", x.count(15), 23);
+        due.is("all of it", x.end(23), 23);
+        due.is("end 12", x.end(12), 12);
+        due.is("comes behind", x.feed(0x686f7573, 0x65203720, 0x38203920, BLANKS, BLANKS), 32);
+        due.is("houses", x.duchy(), 1);
+        due.is("warmth", x.house(0, 0), 7);
+        due.is("heat", x.house(0, 2), 9);
+    }
+}
