@@ -9,6 +9,7 @@ public final class ActsTest {
         lendThaws(due);
         hide(due);
         lift(due);
+        liftByOthers(due);
         liftInTheCold(due);
         spit(due);
         undo(due);
@@ -134,6 +135,26 @@ public final class ActsTest {
         due.is("above 999 is lost", hot.house(0, 0), 999);
     }
 
+    private static void liftByOthers(Due due) {
+        FireTax x = Due.land("duchy 0 0 0;house 10 0 0;house 20 0 0;house 30 0 0;hat 1 11;hat 2 20;"
+                + "officer 0 99;officer 1 99;officer 2 6");
+        due.is("no hat at 0", x.lift(0), -1);
+        due.is("the hat at 1", x.lift(1), 5);
+        due.is("warmth of 1", x.house(1, 0), 26);
+        due.is("hidden at 2 still", x.house(2, 3), 20);
+        due.is("the hat at 2", x.lift(2), 6);
+        due.is("warmth of 2", x.house(2, 0), 44);
+        due.is("warmth of 0", x.house(0, 0), 10);
+        int[] has = {0, 5, 6};
+        for (int o = 0; o < 3; o++) {
+            due.is("has " + o, x.officer(o, 2), has[o]);
+            due.is("hidden " + o, x.house(o, 3), 0);
+        }
+        due.is("hide in 2", x.hide(2, 30), 30);
+        due.is("no room left", x.lift(2), 0);
+        due.is("fell at 2", x.fell(2, 9), 9);
+    }
+
     private static void liftInTheCold(Due due) {
         FireTax x = Due.land("duchy 0 1 9;house 9 0 0;hat 0 50;officer 0 99");
         x.night();
@@ -159,6 +180,12 @@ public final class ActsTest {
             due.is("officer " + far, x.spit(far), -1);
         }
         due.is("acts", x.count(13), 4);
+        FireTax y = Due.land("duchy 10 0 0;house 90 0 0;house 10 0 0;officer 0 99;officer 1 99", "call 1");
+        y.night();
+        due.is("one is something", y.spit(1), 1);
+        due.is("the first has it still", y.officer(0, 2), 9);
+        due.is("the second has nothing", y.officer(1, 2), 0);
+        due.is("the first too", y.spit(0), 10);
     }
 
     private static void undo(Due due) {

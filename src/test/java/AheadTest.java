@@ -21,6 +21,9 @@ public final class AheadTest {
             due.is("frozen ahead " + n, x.ahead(0, n, 2), 0);
         }
         due.is("frozen ahead 5", x.ahead(-7, 5, 2), 1);
+        FireTax two = Due.land("duchy 10 0 0;house 50 0 0;house 90 0 0;officer 0 99;officer 1 99", "call 1");
+        due.is("the second officer", two.ahead(1, 1, 1), 9);
+        due.is("the first officer", two.ahead(0, 1, 1), 5);
         due.is("nothing changed", x.count(8), 0);
         due.is("no act", x.count(13), 0);
         due.is("warmth now", x.house(1, 0), 20);

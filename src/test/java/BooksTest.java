@@ -103,6 +103,22 @@ public final class BooksTest {
         due.is("house 0", later.look(4, 0), 0);
         due.is("behind 5 two are", later.look(5, 1), 2);
         due.is("behind 60", later.look(60, 1), 2);
+        FireTax book = Due.land("duchy 10 0 0;house 50 0 0;house 50 0 0;lane 0 1;officer 0 99",
+                "call 1 if house=0 and night=1", "call 1 if house=0 and night=2", "call 1 if house=1 and night=3");
+        book.book(4, 1, 50);
+        due.is("not 2", book.ruled(0), 3);
+        due.is("behind 0 all are alike", book.look(0, 1), 3);
+        due.is("behind 1 two are", book.look(1, 1), 2);
+        due.is("behind 4 two are", book.look(4, 1), 2);
+        FireTax six = Due.land("duchy 10 0 0;house 90 0 0;officer 0 99", "call 1", "call 1", "call 1", "call 1 if night=0",
+                "call 1 if night<2", "call 1 if night<3");
+        due.is("all seven", six.look(0, 1), 6);
+        due.is("behind 1", six.look(1, 1), 5);
+        due.is("behind 2", six.look(2, 1), 4);
+        due.is("behind 3", six.look(3, 1), 3);
+        FireTax plain = Due.land("duchy 10 20 0;house 25 0 0;officer 0 99", "call 1");
+        due.is("5 and 3 are not alike", plain.look(0, 1), 1);
+        due.is("0 and 0 are", plain.look(1, 1), 2);
         due.is("no rules", Due.land(LAND).look(7, 1), 1);
         due.is("no houses", Due.land("duchy 0 0 0").look(0, 0), -2);
         due.is("no houses, how many", Due.land("duchy 0 0 0").look(0, 1), -2);

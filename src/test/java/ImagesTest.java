@@ -6,6 +6,7 @@ public final class ImagesTest {
         Due due = new Due("ImagesTest");
         counts(due);
         goneBackTo(due);
+        booksAndActs(due);
         rulesAndTapeStay(due);
         undoneBehindBack(due);
         madeAnew(due);
@@ -63,6 +64,38 @@ public final class ImagesTest {
         all(due, "the other", x, 10, 2, 9, 2, 1, 1, 2, -1, 2, 0, 9, 0, 2, 6, 10, 0);
         due.is("back again", x.back(3), 1);
         due.is("as it was", x.house(0, 0), 47);
+    }
+
+    /** All that an image held is overwritten ahead of going back. */
+    private static void booksAndActs(Due due) {
+        FireTax x = Due.land("duchy 10 1 0;house 50 0 0;house 40 0 0;officer 0 99", "call 1");
+        x.book(0, 0, 44);
+        x.book(1, 1, 38);
+        for (int i = 1; i <= 3; i++) {
+            x.fell(0, i);
+        }
+        x.image(1);
+        x.book(-1, 0, 0);
+        x.book(5, 1, 999);
+        x.book(6, 0, 998);
+        x.book(7, 1, 997);
+        for (int i = 0; i < 3; i++) {
+            x.undo();
+        }
+        for (int i = 0; i < 9; i++) {
+            x.hide(1, 2);
+        }
+        due.is("no rule is so", x.ruled(0), 0);
+        due.is("back", x.back(1), 0);
+        due.is("two books", x.count(12), 2);
+        due.is("by rule 0", x.ruled(1), 0);
+        due.is("alone", x.ruled(0), 1);
+        int[] wood = {3, 1, 0};
+        for (int i = 0; i < 3; i++) {
+            due.is("undo", x.undo(), 2 - i);
+            due.is("wood", x.house(0, 1), wood[i]);
+            due.is("nothing hidden", x.house(1, 3), 0);
+        }
     }
 
     private static void rulesAndTapeStay(Due due) {

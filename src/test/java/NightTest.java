@@ -10,6 +10,7 @@ public final class NightTest {
         freezing(due);
         snow(due);
         lastCall(due);
+        eightHouses(due);
         due.end();
     }
 
@@ -139,6 +140,37 @@ public final class NightTest {
             x.night();
             due.is("warmth behind " + i, x.house(0, 0), warmth[i]);
             due.is("snow on " + (i + 1), x.count(11), snows[i]);
+        }
+    }
+
+    /** Every part of what is held has a place of its own. */
+    private static void eightHouses(Due due) {
+        StringBuilder text = new StringBuilder("duchy 0 0 0");
+        for (int h = 0; h < 8; h++) {
+            text.append(";house ").append(10 + h).append(' ').append(20 + h).append(' ').append(h);
+        }
+        for (int h = 0; h < 8; h++) {
+            text.append(";hat ").append(h).append(' ').append(30 + h);
+        }
+        FireTax x = Due.land(text + ";officer 7 41;officer 6 42;officer 0 43", "call 1");
+        for (int nights = 0; nights < 3; nights++) {
+            for (int h = 0; h < 8; h++) {
+                boolean called = nights > 0 && (h == 7 || h == 6 || h == 0);
+                int[] of = {10 + h + nights * h, 20 + h - nights, h, 30 + h, 0, 0, called ? nights - 1 : -1};
+                for (int what = 0; what < 7; what++) {
+                    due.is("house " + h + " " + what, x.house(h, what), of[what]);
+                }
+            }
+            int[] stands = {7, 6, 0};
+            for (int o = 0; o < 3; o++) {
+                due.is("stands " + o, x.officer(o, 0), stands[o]);
+                due.is("stomach " + o, x.officer(o, 1), 41 + o);
+                due.is("has " + o, x.officer(o, 2), 0);
+            }
+            due.is("frozen", x.count(9), 0);
+            due.is("night", x.count(8), nights);
+            due.is("hill", x.count(10), 0);
+            x.night();
         }
     }
 

@@ -5,6 +5,7 @@ public final class RoundTest {
         best(due);
         freezesNobody(due);
         noRow(due);
+        nothingIsARow(due);
         firstRow(due);
         others(due);
         wrong(due);
@@ -27,6 +28,8 @@ public final class RoundTest {
         due.is("least of two", x.span(0, 2, 0), 37);
         due.is("most of two", x.span(0, 2, 1), 55);
         due.is("least of one", x.span(0, 1, 0), 25);
+        due.is("least of four", x.span(0, 4, 0), 25 + 12 + 6 + 3);
+        due.is("most of four", x.span(0, 4, 1), 82);
         due.is("nothing changed", x.count(8), 0);
         due.is("nobody called", x.house(0, 6), -1);
         due.is("nothing taken", x.officer(0, 2), 0);
@@ -65,6 +68,16 @@ public final class RoundTest {
         due.is("no most", x.span(0, 1, 1), -2);
         due.is("off a frozen one", x.round(1, 1, -1), 4);
         due.is("to 1", x.round(1, 1, 0), 1);
+    }
+
+    private static void nothingIsARow(Due due) {
+        FireTax x = Due.land("duchy 10 0 0;house 9 0 0;house 50 0 0;lane 0 1;officer 0 9");
+        due.is("least is nothing", x.span(0, 1, 0), 0);
+        due.is("most", x.span(0, 1, 1), 5);
+        FireTax y = Due.land("duchy 10 0 0;house 9 0 0;officer 0 9");
+        due.is("most is nothing", y.span(0, 3, 1), 0);
+        due.is("round of nothing", y.round(0, 3, -1), 0);
+        due.is("is a row", y.round(0, 3, 2), 0);
     }
 
     private static void firstRow(Due due) {

@@ -9,6 +9,8 @@ public final class RuleTextTest {
         tooDeep(due);
         tooManyParts(due);
         tooManyClauses(due);
+        behindTheEnd(due);
+        afterAFault(due);
         due.end();
     }
 
@@ -77,6 +79,13 @@ public final class RuleTextTest {
         fault(due, "call 1 if 1=1 not 1=1", 14, 0);
         fault(due, "call 1 if nots 1=1", 10, 0);
         fault(due, "call 1 if 1!=1", 11, 0);
+        fault(due, "call 1 if 1<=", 13, 0);
+        for (String word : new String[] {"duchy", "lane", "hat", "snow", "call", "if", "or", "and", "not", "a"}) {
+            fault(due, "call " + word, 5, 0);
+            fault(due, "call 1 if " + word + "=1", word.equals("not") ? 13 : 10, 0);
+        }
+        fault(due, "[".repeat(400), 0, 0);
+        fault(due, "call 1" + "]".repeat(394), 6, 0);
         fault(due, "call (1)", 5, 0);
         fault(due, "call 1,", 6, 0);
         fault(due, "call 1\u0000", 6, 0);
@@ -124,6 +133,32 @@ public final class RuleTextTest {
         fault(due, "call 1;".repeat(12) + " call", 85, 4);
         fault(due, "call 1;".repeat(12) + "cal 1", 84, 0);
         fault(due, "call 1;".repeat(12), 84, 0);
+    }
+
+    /** What was cut off the tape is not read. */
+    private static void behindTheEnd(Due due) {
+        String[] texts = {"call warmths", "call 123456", "call 1 if 1<=1"};
+        int[] ends = {11, 10, 12};
+        int[] answers = {0, 1, Due.fault(12, 0)};
+        FireTax x = new FireTax();
+        for (int i = 0; i < texts.length; i++) {
+            Due.tell(x, texts[i]);
+            x.end(ends[i]);
+            due.is("cut off '" + texts[i] + "'", x.rule(), answers[i]);
+        }
+    }
+
+    /** Nothing of a text with a fault, or of a rule before, is in the next rule. */
+    private static void afterAFault(Due due) {
+        FireTax x = Due.land("duchy 10 0 0;house 50 0 0;officer 0 99");
+        Due.rule(x, "call 9;call 8;call 7 if 1=1;");
+        due.is("none of 40 parts and 11 clauses", Due.rule(x, "call 0" + ";call 1+1+1+1".repeat(10) + "+"), Due.fault(137, 0));
+        due.is("40 parts and 11 clauses", Due.rule(x, "call 0" + ";call 1+1+1+1".repeat(10)), 0);
+        due.is("once more", Due.rule(x, "call 1" + ";call 1+1+1+1".repeat(10)), 1);
+        x.force(0);
+        due.is("0 by the first clause", x.night(), 0);
+        x.force(1);
+        due.is("1 by the first clause", x.night(), 5);
     }
 
     private static void good(Due due, String text) {

@@ -8,6 +8,7 @@ public final class RuleValuesTest {
         Due due = new Due("RuleValuesTest");
         words(due);
         since(due);
+        sinceAtOthers(due);
         sums(due);
         tests(due);
         clauses(due);
@@ -86,6 +87,20 @@ public final class RuleValuesTest {
         due.is("more: 99", x.house(0, 6), 224);
     }
 
+    private static void sinceAtOthers(Due due) {
+        FireTax x = Due.land("duchy 1 0 0;house 9 0 0;house 9 0 0;lane 0 1;officer 1 20", "call 1 if house=1",
+                "call 1 if house=1 and since=2", "call 1 if house=0 and since=99");
+        x.night();
+        x.force(-1);
+        x.night();
+        x.force(1);
+        x.night();
+        due.is("two nights at 1", x.house(1, 6), 2);
+        x.force(2);
+        x.night();
+        due.is("never at 0", x.house(0, 6), 3);
+    }
+
     private static void sums(Due due) {
         is(due, 0, "2+3*4", 14);
         is(due, 0, "2*3+4", 10);
@@ -152,6 +167,9 @@ public final class RuleValuesTest {
         due.is("the first without a test", called("call 1;call 99 if house=1"), 0);
         due.is("0 without a clause", called("call 5 if house=9"), -1);
         due.is("a clause of 0 ends it", called("call 0 if house=1;call warmth"), 0);
+        due.is("not 1=1 at its outermost", called("call 5 if not 1=1"), -1);
+        due.is("not 1=2 at its outermost", called("call 5 if not 1=2"), 0);
+        due.is("not not 1=1 at its outermost", called("call 5 if not not 1=1"), 0);
         due.is("of the last clause", called("call 0 if house=0;call wood-9 if wood=9;call 3"), 1);
     }
 

@@ -38,6 +38,13 @@ public final class SharesTest {
         x.night();
         due.is("1 is frozen", x.count(9), 2);
         parts(due, x, 40, 30, 0, 10);
+        FireTax half = Due.land("duchy 0 0 9;house 10 0 0;house 10 0 0;house 1 0 0");
+        half.night();
+        due.is("2 is frozen", half.count(9), 4);
+        parts(due, half, 100, 50, 50, 0);
+        parts(due, half, 9999, 5000, 4999, 0);
+        FireTax one = Due.land("duchy 0 0 0;house 0 0 0;house 1 0 0");
+        parts(due, one, 7, 0, 7);
         FireTax none = Due.land("duchy 0 9 0;house 0 0 0;house 0 0 0");
         parts(due, none, 9999, 0, 0);
         FireTax cold = Due.land("duchy 0 0 9;house 8 0 0");
@@ -96,6 +103,14 @@ public final class SharesTest {
         due.is("more is hidden", x.hats(99, 1), 1);
         due.is("all of it", x.hats(164, 1), 31);
         due.is("400", x.hats(400, 0), -2);
+        StringBuilder eight = new StringBuilder("duchy 0 0 0" + ";house 1 1 1".repeat(8));
+        for (int h = 0; h < 8; h++) {
+            eight.append(";hat ").append(h).append(" 50");
+        }
+        FireTax full = Due.land(eight.toString());
+        due.is("all eight", full.hats(400, 0), 8);
+        due.is("all eight as bits", full.hats(400, 1), 255);
+        due.is("seven", full.hats(350, 1), 127);
         due.is("nothing hidden", Due.land("duchy 0 0 0;house 1 1 1").hats(1, 0), -2);
         due.is("no houses", Due.land("duchy 0 0 0").hats(1, 1), -2);
         FireTax cold = Due.land("duchy 0 1 9;house 1 0 0;hat 0 7");

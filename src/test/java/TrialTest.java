@@ -56,6 +56,15 @@ public final class TrialTest {
         due.is("1 freezes", x.rate(10), -2);
         FireTax z = Due.land("duchy 0 0 9;house 10 0 0;officer 0 200", "call 1 if tenth>1");
         due.is("tenth by the one in place", z.rate(1), 19);
+        FireTax half = Due.land("duchy 50 0 50;house 99 0 0;officer 0 200", "call 1");
+        due.is("49 of 99", half.rate(1), 50);
+        FireTax zero = Due.land("duchy 50 10 50;house 90 2 20;officer 0 200", "call 1");
+        zero.force(-1);
+        zero.night();
+        zero.night();
+        zero.force(0);
+        due.is("1 of a hundred of 110 would be too much", zero.rate(6), 0);
+        due.is("and nothing too", zero.rate(7), -2);
         FireTax gap = Due.land("duchy 0 0 9;house 99 0 0;officer 0 200", "call 1 if tenth<90");
         due.is("the greatest, whatever lies below", gap.rate(1), 100);
         due.is("no houses", Due.land("duchy 0 0 9").rate(60), 100);
@@ -83,6 +92,12 @@ public final class TrialTest {
         FireTax exact = Due.land("duchy 0 1 5;house 12 0 0;house 0 0 0;lane 0 1");
         due.is("just enough", exact.loan(0, 1, 1), 6);
         due.is("one more night", exact.loan(0, 1, 2), -2);
+        FireTax whole = Due.land("duchy 0 0 0;house 9 0 0;house 0 0 0;lane 0 1;officer 1 20", "call 1");
+        due.is("freezes nobody", whole.loan(0, 1, 9), 0);
+        FireTax allOfIt = Due.land("duchy 0 5 5;house 7 9 20;house 3 0 0;lane 0 1");
+        due.is("all it has", allOfIt.loan(0, 1, 1), 7);
+        FireTax more = Due.land("duchy 0 5 5;house 6 9 20;house 3 0 0;lane 0 1");
+        due.is("more than it has", more.loan(0, 1, 1), -2);
     }
 
     /** Whoever has 30 to 34 is called at and freezes: the least that helps is not the end of what helps. */
