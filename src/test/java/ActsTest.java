@@ -37,6 +37,10 @@ public final class ActsTest {
         due.is("of one that is frozen too", x.fell(1, 3), 3);
         due.is("a night burnt", x.house(0, 1), 98);
         due.is("still below 100", x.fell(0, 1), 99);
+        FireTax y = Due.land("duchy 0 0 0;house 9 0 0;house 0 95 0");
+        due.is("the second has much", y.fell(1, 5), -1);
+        due.is("the first has not", y.fell(0, 5), 5);
+        due.is("the second to 99", y.fell(1, 4), 99);
     }
 
     private static void lend(Due due) {
@@ -103,6 +107,10 @@ public final class ActsTest {
         FireTax y = Due.land("duchy 0 1 9;house 9 0 0");
         y.night();
         due.is("in a frozen one", y.hide(0, 1), -1);
+        FireTax z = Due.land("duchy 0 0 0;house 99 0 0;house 99 0 0;hat 1 50");
+        due.is("the second has a hat", z.hide(1, 50), -1);
+        due.is("the first has not", z.hide(0, 50), 50);
+        due.is("the second to 99", z.hide(1, 49), 99);
     }
 
     private static void lift(Due due) {

@@ -91,14 +91,15 @@ public final class RuleValuesTest {
         FireTax x = Due.land("duchy 1 0 0;house 9 0 0;house 9 0 0;lane 0 1;officer 1 20", "call 1 if house=1",
                 "call 1 if house=1 and since=2", "call 1 if house=0 and since=99");
         x.night();
+        x.night();
         x.force(-1);
         x.night();
         x.force(1);
         x.night();
-        due.is("two nights at 1", x.house(1, 6), 2);
+        due.is("two nights at 1", x.house(1, 6), 3);
         x.force(2);
         x.night();
-        due.is("never at 0", x.house(0, 6), 3);
+        due.is("never at 0", x.house(0, 6), 4);
     }
 
     private static void sums(Due due) {
