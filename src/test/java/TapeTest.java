@@ -7,6 +7,8 @@ public final class TapeTest {
         highestByteFirst(due);
         atMostFourHundred(due);
         endKeepsTheFirst(due);
+        everyLength(due);
+        everyByte(due);
         due.end();
     }
 
@@ -50,5 +52,35 @@ public final class TapeTest {
         due.is("houses", x.duchy(), 1);
         due.is("warmth", x.house(0, 0), 7);
         due.is("heat", x.house(0, 2), 9);
+    }
+
+    /** NONE, and none comes, if it would have more than 400; NONE, and nothing happens, if it has not so many. */
+    private static void everyLength(Due due) {
+        FireTax x = new FireTax();
+        for (int length = 0; length <= 400; length++) {
+            Due.tell(x, " ".repeat(length));
+            new Edge(due, "end of " + length, x::end).answers(length, length).refuses(0, length, -1);
+            due.is("it has", x.count(15), length);
+            due.is("fed behind " + length, x.feed(0, 0, 0, 0, 0), length <= 380 ? length + 20 : -1);
+            due.is("it has then", x.count(15), length <= 380 ? length + 20 : length);
+            due.is("back to " + length, x.end(length), length);
+            due.is("to one less", length == 0 ? 0 : x.end(length - 1), Math.max(0, length - 1));
+            due.is("no more than that", x.end(length), length == 0 ? 0 : -1);
+        }
+    }
+
+    /** Of each number the highest first: a blank in each place of twenty, and a text around it. */
+    private static void everyByte(Due due) {
+        for (int place = 0; place < 20; place++) {
+            FireTax x = new FireTax();
+            byte[] text = " ".repeat(20).getBytes();
+            text[place] = 'x';
+            Due.tell(x, text);
+            due.is("a byte at " + place, x.duchy(), Due.fault(place, 0));
+            int[] n = new int[5];
+            n[place / 4] = 0x20 << 24 - 8 * (place % 4);
+            x.feed(n[0], n[1], n[2], n[3], n[4]);
+            due.is("a blank at " + place, x.duchy(), Due.fault(place == 0 ? 1 : 0, 0));
+        }
     }
 }
