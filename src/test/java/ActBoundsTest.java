@@ -1,3 +1,6 @@
+import java.util.ArrayList;
+import java.util.List;
+
 /** Promises 10 to 15 and the ACTS of ==== II: each bound, just within and just beyond. */
 public final class ActBoundsTest {
     public static void main(String[] args) {
@@ -17,6 +20,7 @@ public final class ActBoundsTest {
         spitAnything(due);
         nothingFreezesAtOnce(due);
         undoTwenty(due);
+        undoEachKind(due);
         due.end();
     }
 
@@ -280,5 +284,36 @@ public final class ActBoundsTest {
         due.is("undone ones are none", again.count(13), 0);
         due.is("no wood", again.house(0, 1), 0);
         due.is("without a duchy", new FireTax().undo(), -2);
+    }
+
+    /** All is as it was ahead of the act, whichever it was and however many came ahead of it. */
+    private static void undoEachKind(Due due) {
+        FireTax x = Due.land("duchy 20 1 9;house 90 9 9;house 80 9 9;house 9 0 0;lane 0 1;lane 1 2;hat 0 50;hat 1 40;hat 2 30;"
+                + "officer 0 200;officer 1 200;officer 2 200", "call warmth");
+        List<List<Integer>> ahead = new ArrayList<>();
+        for (int i = 0; i < 36; i++) {
+            ahead.add(Picture.now(x));
+            due.is("act " + i, act(x, i) < 0 ? 0 : 1, 1);
+            due.is("something is on the hill", i < 6 || x.count(10) > 0 ? 1 : 0, 1);
+        }
+        for (int i = 35; i >= 16; i--) {
+            due.is("undo " + i, x.undo(), i - 16);
+            List<Integer> now = Picture.now(x);
+            now.set(13, ahead.get(i).get(13));
+            due.is("as ahead of " + i, Picture.parting(now, ahead.get(i)), -1);
+        }
+        due.is("no more", x.undo(), -2);
+    }
+
+    /** One act of the kinds in turn. */
+    private static int act(FireTax x, int number) {
+        switch (number % 6) {
+            case 0: return x.night();
+            case 1: return x.fell(2, 1);
+            case 2: return x.lend(number % 12 == 2 ? 0 : 1, number % 12 == 2 ? 1 : 0, 5);
+            case 3: return x.hide(x.officer(0, 0), 4);
+            case 4: return x.lift(0);
+            default: return x.spit(0);
+        }
     }
 }

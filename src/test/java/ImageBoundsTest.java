@@ -13,6 +13,7 @@ public final class ImageBoundsTest {
         withoutADuchy(due);
         rulesAndTapeStay(due);
         asItWas(due);
+        tenBooks(due);
         due.end();
     }
 
@@ -125,6 +126,28 @@ public final class ImageBoundsTest {
         FireTax y = made();
         y.image(2);
         due.is("as it was", Picture.parting(Picture.all(x), Picture.all(y)), -1);
+    }
+
+    /** Each of ten books is in the image, though ten others came since. */
+    private static void tenBooks(Due due) {
+        for (int wrong = -1; wrong < 10; wrong++) {
+            FireTax x = Due.land("duchy 0 1 0;house 99 0 0;house 98 0 0");
+            for (int b = 0; b < 10; b++) {
+                x.book(5 * b, b % 2, 98 - b % 2 - 5 * b + (b == wrong ? 1 : 0));
+            }
+            x.image(0);
+            x.book(-1, 0, 0);
+            for (int b = 0; b < 10; b++) {
+                x.book(5 * b + 1, (b + 1) % 2, 97 - (b + 1) % 2 - 5 * b + (wrong < 0 ? 1 : 0));
+            }
+            due.is("others", x.ruled(0), wrong < 0 ? 0 : 1);
+            x.image(1);
+            due.is("back", x.back(0), 0);
+            due.is("ten books", x.count(12), 10);
+            due.is("so they are but " + wrong, x.ruled(0), wrong < 0 ? 1 : 0);
+            due.is("and the others", x.back(1), 0);
+            due.is("as before", x.ruled(0), wrong < 0 ? 0 : 1);
+        }
     }
 
     private static FireTax made() {

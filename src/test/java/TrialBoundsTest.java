@@ -120,8 +120,8 @@ public final class TrialBoundsTest {
         for (int freeze = 8; freeze <= 12; freeze++) {
             FireTax x = Due.land("duchy 50 0 " + freeze + ";house 20 0 0;officer 0 99");
             for (int what = -1; what < 4; what++) {
-                int due1 = freeze > 10 ? -2 : what < 0 ? 10 : what == 0 ? 0 : -2;
-                due.is("FREEZE " + freeze + " what " + what, x.round(0, 1, what), due1);
+                int answer = freeze > 10 ? -2 : what < 0 ? 10 : what == 0 ? 0 : -2;
+                due.is("FREEZE " + freeze + " what " + what, x.round(0, 1, what), answer);
             }
             due.is("whoever freezes", x.span(0, 1, 1), 10);
         }
