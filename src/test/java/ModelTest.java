@@ -17,10 +17,13 @@ public final class ModelTest {
     private final FireTax program = new FireTax();
     private final Model model = new Model();
     private final Due due;
+    /** Whether texts are drawn about the bounds of the language. */
+    private final boolean atTheBounds;
 
     private ModelTest(int seed, Due due) {
         this.random = new Random(seed);
         this.due = due;
+        this.atTheBounds = seed % 3 == 1;
     }
 
     public static void main(String[] args) throws Exception {
@@ -37,7 +40,7 @@ public final class ModelTest {
     }
 
     private void run(int seed) throws Exception {
-        if (seed % 10 != 0) {
+        for (int i = 0; i < 4 && seed % 10 != 0 && program.count(3) == 0; i++) {
             tell(duchy());
             ask("duchy");
         }
@@ -151,6 +154,38 @@ public final class ModelTest {
     }
 
     private String duchy() {
+        return atTheBounds ? fullDuchy() : plainDuchy();
+    }
+
+    /** At a bound, next to it, or one beyond it, which is seldom. */
+    private String number(int least, int most) {
+        return "" + (random.nextInt(60) == 0 ? most + 1 : pick(least, least + 1, most - 1, most));
+    }
+
+    private String fullDuchy() {
+        StringBuilder text = new StringBuilder("duchy " + pick(0, 1, 10, 50, 99, 100) + " " + pick(0, 1, 2, 19, 20) + " "
+                + pick(0, 1, 9, 49, 50));
+        int houses = pick(7, 8, 8, 8, 8, 8, 8, 9);
+        for (int i = 0; i < houses; i++) {
+            text.append(";house " + pick(0, 1, 50, 51, 98, 99) + " " + pick(0, 1, 98, 99) + " " + number(0, 20));
+        }
+        for (int i = pick(10, 11, 12, 12, 13); i > 0; i--) {
+            int a = random.nextInt(8);
+            text.append(";lane " + a + " " + (a + 1 + random.nextInt(7)) % 8);
+        }
+        for (int i = pick(2, 3, 3, 3, 3, 3, 4); i > 0; i--) {
+            text.append(";officer " + random.nextInt(8) + " " + pick(1, 2, 30, 199, 200));
+        }
+        for (int i = pick(0, 1, 5, 6, 6, 7); i > 0 && text.length() < 390; i--) {
+            text.append(random.nextBoolean() ? ";snow " + pick(0, 1, 2, 98, 99) : ";hat " + random.nextInt(8) + " " + pick(0, 1, 49, 50));
+        }
+        while (random.nextInt(3) == 0 && text.length() < 390) {
+            text.append(";hat " + random.nextInt(8) + " " + number(0, 50));
+        }
+        return text.length() > 400 ? text.substring(0, 400) : text.toString();
+    }
+
+    private String plainDuchy() {
         StringBuilder text = new StringBuilder("duchy " + pick(0, 5, 10, 20, 50, 100) + " " + random.nextInt(5) + " "
                 + random.nextInt(10));
         int houses = pick(0, 1, 2, 3, 4, 5, 8);
@@ -194,6 +229,21 @@ public final class ModelTest {
     }
 
     private String rule() {
+        return atTheBounds ? fullRule() : plainRule();
+    }
+
+    /** About twelve clauses, about sixty parts, or about ten deep. */
+    private String fullRule() {
+        String text = switch (random.nextInt(3)) {
+            case 0 -> "call " + value() + (";call " + value()).repeat(pick(10, 11, 11, 12));
+            case 1 -> "call 1" + ("+" + pick(1, 7, 99999)).repeat(pick(54, 55, 56)) + " if warmth>" + pick(0, 1, 50);
+            default -> "call warmth if " + "[not ".repeat(pick(4, 5, 5)) + (random.nextInt(4) == 0 ? "[" : "") + sum() + "=" + sum();
+        };
+        int open = text.replace("]", "").length() - text.replace("]", "").replace("[", "").length();
+        return text + "]".repeat(open) + (random.nextBoolean() ? "" : ";call since+tenth*room");
+    }
+
+    private String plainRule() {
         StringBuilder text = new StringBuilder();
         for (int i = random.nextInt(3); i >= 0; i--) {
             text.append(text.length() == 0 ? "call " : ";call ").append(sum());
