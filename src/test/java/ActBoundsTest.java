@@ -1,4 +1,3 @@
-import java.util.ArrayList;
 import java.util.List;
 
 /** Promises 10 to 15 and the ACTS of ==== II: each bound, just within and just beyond. */
@@ -288,21 +287,27 @@ public final class ActBoundsTest {
 
     /** All is as it was ahead of the act, whichever it was and however many came ahead of it. */
     private static void undoEachKind(Due due) {
+        for (int kept = 35; kept >= 16; kept--) {
+            FireTax x = afterActs(due, 36);
+            for (int i = 35; i >= kept; i--) {
+                due.is("undo " + i, x.undo(), i - 16);
+            }
+            List<Integer> now = Picture.now(x);
+            List<Integer> ahead = Picture.now(afterActs(due, kept));
+            now.set(13, ahead.get(13));
+            due.is("as ahead of " + kept, Picture.parting(now, ahead), -1);
+            due.is("more can be undone", x.undo(), kept > 16 ? kept - 17 : -2);
+        }
+    }
+
+    private static FireTax afterActs(Due due, int acts) {
         FireTax x = Due.land("duchy 20 1 9;house 90 9 9;house 80 9 9;house 9 0 0;lane 0 1;lane 1 2;hat 0 50;hat 1 40;hat 2 30;"
                 + "officer 0 200;officer 1 200;officer 2 200", "call warmth");
-        List<List<Integer>> ahead = new ArrayList<>();
-        for (int i = 0; i < 36; i++) {
-            ahead.add(Picture.now(x));
+        for (int i = 0; i < acts; i++) {
             due.is("act " + i, act(x, i) < 0 ? 0 : 1, 1);
             due.is("something is on the hill", i < 6 || x.count(10) > 0 ? 1 : 0, 1);
         }
-        for (int i = 35; i >= 16; i--) {
-            due.is("undo " + i, x.undo(), i - 16);
-            List<Integer> now = Picture.now(x);
-            now.set(13, ahead.get(i).get(13));
-            due.is("as ahead of " + i, Picture.parting(now, ahead.get(i)), -1);
-        }
-        due.is("no more", x.undo(), -2);
+        return x;
     }
 
     /** One act of the kinds in turn. */

@@ -31,15 +31,17 @@ public final class AheadTest {
 
     /** What is told ahead is what nights bring. */
     private static void asNights(Due due) {
-        FireTax x = Due.land(LAND, "call warmth");
-        FireTax y = Due.land(LAND, "call warmth");
+        FireTax houses = Due.land(LAND, "call warmth");
+        FireTax others = Due.land(LAND, "call warmth");
         for (int n = 0; n <= 100; n++) {
+            FireTax x = Due.land(LAND, "call warmth");
             for (int h = 0; h < 3; h++) {
-                due.is("house " + h + " ahead " + n, x.ahead(h, n, 0), y.house(h, 0));
+                due.is("house " + h + " ahead " + n, x.ahead(h, n, 0), houses.house(h, 0));
             }
-            due.is("officer ahead " + n, x.ahead(0, n, 1), y.officer(0, 2));
-            due.is("frozen ahead " + n, x.ahead(9, n, 2), Integer.bitCount(y.count(9)));
-            y.night();
+            due.is("officer ahead " + n, x.ahead(0, n, 1), others.officer(0, 2));
+            due.is("frozen ahead " + n, x.ahead(9, n, 2), Integer.bitCount(others.count(9)));
+            houses.night();
+            others.night();
         }
     }
 

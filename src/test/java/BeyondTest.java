@@ -1,6 +1,6 @@
 /**
  * Promises 9 and 14 where NIGHT is 999 and the HILL has 99999. Neither can be come to within the 512 calls for which the
- * document promises answers; the class counts no calls, so that the sentences can be held against it all the same.
+ * document promises answers, so the sentences are held against a class only if it goes on behind them as ahead of them.
  */
 public final class BeyondTest {
     /** Eight houses at the corners of a cube. */
@@ -9,10 +9,28 @@ public final class BeyondTest {
 
     public static void main(String[] args) {
         Due due = new Due("BeyondTest");
-        night999(due);
-        beyond999(due);
-        hill99999(due);
+        if (goesOn(due)) {
+            night999(due);
+            beyond999(due);
+            hill99999(due);
+        } else {
+            System.out.println("BeyondTest: the answers behind the 512th call are others, as they may be");
+        }
         due.end();
+    }
+
+    /** Whether the calls behind the 512th are answered like those ahead of it. */
+    private static boolean goesOn(Due due) {
+        FireTax x = Due.land("duchy 0 0 0");
+        for (int night = 0; night < 500; night++) {
+            due.is("night " + night, x.night(), 0);
+        }
+        due.is("500 nights", x.count(8), 500);
+        boolean same = true;
+        for (int night = 500; night < 600; night++) {
+            same = same && x.night() == 0 && x.count(8) == night + 1;
+        }
+        return same;
     }
 
     /** NIGHT is 1 more (999 at most); NONE, and nothing happens, at NIGHT 999. */

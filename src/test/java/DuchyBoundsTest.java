@@ -29,20 +29,22 @@ public final class DuchyBoundsTest {
 
     /** A number behind a text and ahead of another: all from least to most are taken, the next one is not as told. */
     private static void number(Due due, String ahead, int least, int most, String behind, ToIntFunction<FireTax> told) {
-        FireTax x = new FireTax();
         for (int value = least; value <= most; value++) {
+            FireTax x = new FireTax();
             String text = ahead + value + behind;
             due.is(text + " is a duchy", Due.duchy(x, text) >= 0 ? 1 : 0, 1);
             due.is(text + " tells", told.applyAsInt(x), value);
         }
         for (int value : new int[] {most + 1, most + 2, 999, 9999, 99999}) {
-            fault(due, x, ahead + value + behind, ahead.length(), 1);
+            fault(due, ahead + value + behind, ahead.length(), 1);
         }
         for (int value = 0; value < least; value++) {
-            fault(due, x, ahead + value + behind, ahead.length(), 1);
+            fault(due, ahead + value + behind, ahead.length(), 1);
         }
-        fault(due, x, ahead + "-1" + behind, ahead.length(), 0);
-        due.is("the last one stays", told.applyAsInt(x), most);
+        fault(due, ahead + "-1" + behind, ahead.length(), 0);
+        FireTax kept = Due.land(ahead + most + behind);
+        due.is("one beyond", Due.duchy(kept, ahead + (most + 1) + behind), Due.fault(ahead.length(), 1));
+        due.is("the last one stays", told.applyAsInt(kept), most);
     }
 
     /** TENTH 0 to 100; LOSS 0 to 20; FREEZE 0 to 50; WARMTH, WOOD 0 to 99; HEAT 0 to 20; HIDDEN 0 to 50; STOMACH 1 to 200. */
@@ -64,15 +66,14 @@ public final class DuchyBoundsTest {
         String[] behind = {" 0 0", " 0", "", " 0 0", "", " 0", "", "", ""};
         int[] number = {1, 1, 1, 1, 1, 0, 1, 1, 1};
         int[] houses = {0, 0, 0, 1, 1, 1, 2, 1, 0};
-        FireTax x = new FireTax();
         for (int i = 0; i < ahead.length; i++) {
             String zeros = "";
             for (int size = 1; size <= 5; size++) {
-                due.is(size + " digits", Due.duchy(x, ahead[i] + zeros + number[i] + behind[i]), houses[i]);
+                due.is(size + " digits", Due.duchy(new FireTax(), ahead[i] + zeros + number[i] + behind[i]), houses[i]);
                 zeros += "0";
             }
-            fault(due, x, ahead[i] + zeros + number[i] + behind[i], ahead[i].length(), 1);
-            fault(due, x, ahead[i] + "0".repeat(20) + number[i] + behind[i], ahead[i].length(), 1);
+            fault(due, ahead[i] + zeros + number[i] + behind[i], ahead[i].length(), 1);
+            fault(due, ahead[i] + "0".repeat(20) + number[i] + behind[i], ahead[i].length(), 1);
         }
     }
 
@@ -86,39 +87,37 @@ public final class DuchyBoundsTest {
             }
         }
         for (String text : new String[] {"100", "101", "99999"}) {
-            fault(due, new FireTax(), HEAD + ";snow " + text, 17, 1);
+            fault(due, HEAD + ";snow " + text, 17, 1);
         }
     }
 
     /** Two HOUSES that were told (the second not the first); a HOUSE that was told: of 1 to 8. */
     private static void housesThatWereTold(Due due) {
-        FireTax x = new FireTax();
         for (int houses = 0; houses <= 8; houses++) {
             String text = HEAD + HOUSE.repeat(houses);
             int end = text.length();
             for (int a = 0; a <= 9; a++) {
-                told(due, x, text + ";hat " + a + " 50", a < houses, end + 5, houses);
-                told(due, x, text + ";officer " + a + " 1", a < houses, end + 9, houses);
+                told(due, text + ";hat " + a + " 50", a < houses, end + 5, houses);
+                told(due, text + ";officer " + a + " 1", a < houses, end + 9, houses);
                 for (int b = 0; b <= 9; b++) {
                     boolean good = a < houses && b < houses && a != b;
-                    told(due, x, text + ";lane " + a + " " + b, good, a < houses ? end + 8 : end + 6, houses);
+                    told(due, text + ";lane " + a + " " + b, good, a < houses ? end + 8 : end + 6, houses);
                 }
             }
         }
     }
 
-    private static void told(Due due, FireTax x, String text, boolean good, int place, int houses) {
-        due.is(text, Due.duchy(x, text), good ? houses : Due.fault(place, 1));
+    private static void told(Due due, String text, boolean good, int place, int houses) {
+        due.is(text, Due.duchy(new FireTax(), text), good ? houses : Due.fault(place, 1));
     }
 
     /** A house that is told behind was not told. */
     private static void toldBehind(Due due) {
-        FireTax x = new FireTax();
-        fault(due, x, HEAD + HOUSE + ";lane 0 1" + HOUSE, 31, 1);
-        fault(due, x, HEAD + HOUSE + ";lane 1 0" + HOUSE, 29, 1);
-        fault(due, x, HEAD + ";hat 0 1" + HOUSE, 16, 1);
-        fault(due, x, HEAD + ";officer 0 1" + HOUSE, 20, 1);
-        due.is("told ahead", Due.duchy(x, HEAD + HOUSE + ";hat 0 1;officer 0 1" + HOUSE + ";lane 0 1" + HOUSE), 3);
+        fault(due, HEAD + HOUSE + ";lane 0 1" + HOUSE, 31, 1);
+        fault(due, HEAD + HOUSE + ";lane 1 0" + HOUSE, 29, 1);
+        fault(due, HEAD + ";hat 0 1" + HOUSE, 16, 1);
+        fault(due, HEAD + ";officer 0 1" + HOUSE, 20, 1);
+        due.is("told ahead", Due.duchy(new FireTax(), HEAD + HOUSE + ";hat 0 1;officer 0 1" + HOUSE + ";lane 0 1" + HOUSE), 3);
     }
 
     /** hat: of one the last told, 0 without. */
@@ -160,19 +159,19 @@ public final class DuchyBoundsTest {
         String[] clause = {HOUSE, ";officer 0 5", ";snow 7"};
         int[] most = {8, 3, 6};
         int[] counted = {3, 5, 11};
-        FireTax x = new FireTax();
         for (int i = 0; i < clause.length; i++) {
             for (int n = 0; n <= most[i]; n++) {
+                FireTax x = new FireTax();
                 due.is(clause[i] + " " + n + " times", Due.duchy(x, ahead[i] + clause[i].repeat(n)) >= 0 ? 1 : 0, 1);
                 due.is("as many", x.count(counted[i]), i == 2 ? 0 : n);
             }
             String full = ahead[i] + clause[i].repeat(most[i]);
-            fault(due, x, full + clause[i], full.length() + 1, 4);
-            fault(due, x, full + ";  " + clause[i].substring(1), full.length() + 3, 4);
-            fault(due, x, full + clause[i].substring(0, clause[i].indexOf(' ')), full.length() + 1, 4);
-            fault(due, x, full + clause[i].substring(0, 4), full.length() + 1, 0);
+            fault(due, full + clause[i], full.length() + 1, 4);
+            fault(due, full + ";  " + clause[i].substring(1), full.length() + 3, 4);
+            fault(due, full + clause[i].substring(0, clause[i].indexOf(' ')), full.length() + 1, 4);
+            fault(due, full + clause[i].substring(0, 4), full.length() + 1, 0);
         }
-        fault(due, x, HEAD + ";snow 1;snow 2;snow 3;snow 4;snow 5;snow 6;snow 0", 54, 4);
+        fault(due, HEAD + ";snow 1;snow 2;snow 3;snow 4;snow 5;snow 6;snow 0", 54, 4);
         FireTax six = Due.land(HEAD + ";snow 0;snow 1;snow 2;snow 3;snow 4;snow 5");
         for (int night = 0; night < 7; night++) {
             due.is("of six snows on " + night, six.count(11), night < 6 ? 1 : 0);
@@ -182,12 +181,12 @@ public final class DuchyBoundsTest {
 
     /** lane (told already: nothing new): in the same order, and in the other. */
     private static void lanesToldAlready(Due due) {
-        FireTax x = new FireTax();
         for (int a = 0; a < 8; a++) {
             for (int b = 0; b < 8; b++) {
                 if (a == b) {
                     continue;
                 }
+                FireTax x = new FireTax();
                 String text = HEAD + HOUSE.repeat(8) + ";lane " + a + " " + b;
                 due.is("once", Due.duchy(x, text), 8);
                 due.is("one lane", x.count(4), 1);
@@ -214,17 +213,18 @@ public final class DuchyBoundsTest {
         }
         String text = HEAD + HOUSE.repeat(8);
         for (int n = 0; n < 12; n++) {
-            due.is(n + " lanes", Due.duchy(x, text), 8);
-            due.is("as many", x.count(4), n);
+            FireTax some = new FireTax();
+            due.is(n + " lanes", Due.duchy(some, text), 8);
+            due.is("as many", some.count(4), n);
             text += lanes[27 - n];
         }
         due.is("twelve lanes", Due.duchy(x, text), 8);
         due.is("twelve", x.count(4), 12);
-        fault(due, x, text + lanes[0], text.length() + 1, 4);
-        fault(due, x, text + lanes[27], text.length() + 1, 4);
-        fault(due, x, text + ";lane 0 0", text.length() + 1, 4);
-        fault(due, x, text + " ; lane", text.length() + 3, 4);
-        fault(due, x, text + ";lan 0 1", text.length() + 1, 0);
+        fault(due, text + lanes[0], text.length() + 1, 4);
+        fault(due, text + lanes[27], text.length() + 1, 4);
+        fault(due, text + ";lane 0 0", text.length() + 1, 4);
+        fault(due, text + " ; lane", text.length() + 3, 4);
+        fault(due, text + ";lan 0 1", text.length() + 1, 0);
         String elevenAndMore = text.substring(0, text.length() - 9) + lanes[27] + lanes[26] + lanes[25];
         due.is("told already behind eleven", Due.duchy(x, elevenAndMore), 8);
         due.is("eleven", x.count(4), 11);
@@ -238,19 +238,19 @@ public final class DuchyBoundsTest {
         FireTax x = new FireTax();
         String text = HEAD + HOUSE;
         for (int clauses = 2; clauses < 40; clauses++) {
-            due.is(clauses + " clauses", Due.duchy(x, text), 1);
+            due.is(clauses + " clauses", Due.duchy(new FireTax(), text), 1);
             text += ";hat 0 " + clauses % 10;
         }
         due.is("40 clauses", Due.duchy(x, text), 1);
         due.is("the 40th counts", x.house(0, 3), 9);
         int place = text.length() + 1;
         for (String clause : new String[] {"hat 0 1", "house 1 1 1", "lane 0 1", "officer 0 1", "snow 1", "duchy 0 0 0", "hat"}) {
-            fault(due, x, text + ";" + clause, place, 4);
+            fault(due, text + ";" + clause, place, 4);
         }
-        fault(due, x, text + ";", place, 0);
-        fault(due, x, text + ";;", place, 0);
-        fault(due, x, text + ";call 1", place, 0);
-        fault(due, x, text + ";1", place, 0);
+        fault(due, text + ";", place, 0);
+        fault(due, text + ";;", place, 0);
+        fault(due, text + ";call 1", place, 0);
+        fault(due, text + ";1", place, 0);
         String last = text.substring(0, text.length() - 8);
         due.is("39 and a house", Due.duchy(x, last + HOUSE), 2);
         due.is("39 and an officer", Due.duchy(x, last + ";officer 0 9"), 1);
@@ -261,17 +261,16 @@ public final class DuchyBoundsTest {
 
     /** duchy: once, the first CLAUSE; a second duchy, another CLAUSE ahead of it. */
     private static void duchyOnceAndFirst(Due due) {
-        FireTax x = new FireTax();
         for (String clause : new String[] {"house 1 1 1", "lane 0 1", "hat 0 0", "officer 0 1", "snow 1"}) {
-            fault(due, x, clause, 0, 4);
-            fault(due, x, clause + ";" + HEAD, 0, 4);
-            fault(due, x, "   " + clause.substring(0, clause.indexOf(' ')), 3, 4);
+            fault(due, clause, 0, 4);
+            fault(due, clause + ";" + HEAD, 0, 4);
+            fault(due, "   " + clause.substring(0, clause.indexOf(' ')), 3, 4);
         }
-        fault(due, x, "call 1;" + HEAD, 0, 0);
-        fault(due, x, ";" + HEAD, 0, 0);
-        fault(due, x, HEAD + ";" + HEAD, 12, 4);
-        fault(due, x, HEAD + HOUSE + ";duchy", 24, 4);
-        due.is("alone", Due.duchy(x, HEAD), 0);
+        fault(due, "call 1;" + HEAD, 0, 0);
+        fault(due, ";" + HEAD, 0, 0);
+        fault(due, HEAD + ";" + HEAD, 12, 4);
+        fault(due, HEAD + HOUSE + ";duchy", 24, 4);
+        due.is("alone", Due.duchy(new FireTax(), HEAD), 0);
     }
 
     /** A text of at most 400 bytes; the end is behind the last byte. */
@@ -285,20 +284,20 @@ public final class DuchyBoundsTest {
         due.is("399 of them", x.end(399), 399);
         due.is("are a duchy too", x.duchy(), 1);
         due.is("without the last one", x.house(0, 2), 1);
-        fault(due, x, text.substring(0, 399) + ";", 400, 0);
-        fault(due, x, HEAD + " ".repeat(388) + ";", 400, 0);
-        fault(due, x, HEAD + " ".repeat(388) + "x", 399, 0);
-        fault(due, x, " ".repeat(400), 400, 0);
-        fault(due, x, " ".repeat(399), 399, 0);
-        fault(due, x, " ".repeat(395) + "duchy", 400, 0);
-        fault(due, x, ";".repeat(400), 0, 0);
-        fault(due, x, "", 0, 0);
+        fault(due, text.substring(0, 399) + ";", 400, 0);
+        fault(due, HEAD + " ".repeat(388) + ";", 400, 0);
+        fault(due, HEAD + " ".repeat(388) + "x", 399, 0);
+        fault(due, " ".repeat(400), 400, 0);
+        fault(due, " ".repeat(399), 399, 0);
+        fault(due, " ".repeat(395) + "duchy", 400, 0);
+        fault(due, ";".repeat(400), 0, 0);
+        fault(due, "", 0, 0);
     }
 
     /** Blanks (32) alone stand between; small letters and digits go on as far as they go. */
     private static void everyByte(Due due) {
-        FireTax x = new FireTax();
         for (int b = 0; b < 256; b++) {
+            FireTax x = new FireTax();
             char c = (char) b;
             boolean digit = c >= '0' && c <= '9';
             boolean letter = c >= 'a' && c <= 'z';
@@ -313,27 +312,25 @@ public final class DuchyBoundsTest {
     }
 
     private static void theFirstFaultAlongTheText(Due due) {
-        FireTax x = new FireTax();
-        fault(due, x, "duchy 101 21 51;x", 6, 1);
-        fault(due, x, "duchy 100 21 51;x", 10, 1);
-        fault(due, x, "duchy 100 20 51;x", 13, 1);
-        fault(due, x, "duchy 100 20 50;x", 16, 0);
-        fault(due, x, HEAD + ";lane 0 0", 17, 1);
-        fault(due, x, HEAD + HOUSE + ";lane 0 x", 31, 0);
-        fault(due, x, HEAD + HOUSE + ";officer 0;officer 1 1", 33, 0);
-        fault(due, x, HEAD + HOUSE + ";hat 0 51;duchy", 30, 1);
-        fault(due, x, HEAD + HOUSE.repeat(9) + ";x", 108, 4);
+        fault(due, "duchy 101 21 51;x", 6, 1);
+        fault(due, "duchy 100 21 51;x", 10, 1);
+        fault(due, "duchy 100 20 51;x", 13, 1);
+        fault(due, "duchy 100 20 50;x", 16, 0);
+        fault(due, HEAD + ";lane 0 0", 17, 1);
+        fault(due, HEAD + HOUSE + ";lane 0 x", 31, 0);
+        fault(due, HEAD + HOUSE + ";officer 0;officer 1 1", 33, 0);
+        fault(due, HEAD + HOUSE + ";hat 0 51;duchy", 30, 1);
+        fault(due, HEAD + HOUSE.repeat(9) + ";x", 108, 4);
     }
 
     /** A number that cannot stand there is that, whatever it tells. */
     private static void ofOnePlaceTheLeast(Due due) {
-        FireTax x = new FireTax();
-        fault(due, x, "123456", 0, 0);
-        fault(due, x, HEAD + " 123456", 12, 0);
-        fault(due, x, HEAD + ";123456", 12, 0);
-        fault(due, x, HEAD + HOUSE.repeat(8) + ";houses 1 1 1", 108, 0);
-        fault(due, x, HEAD + ";duchyduchy", 12, 0);
-        fault(due, x, "houses", 0, 0);
+        fault(due, "123456", 0, 0);
+        fault(due, HEAD + " 123456", 12, 0);
+        fault(due, HEAD + ";123456", 12, 0);
+        fault(due, HEAD + HOUSE.repeat(8) + ";houses 1 1 1", 108, 0);
+        fault(due, HEAD + ";duchyduchy", 12, 0);
+        fault(due, "houses", 0, 0);
     }
 
     /** It is NIGHT 0; no HOUSE is FROZEN, all OFFICERS are empty, so is the HILL: ahead of everything, and in place of another. */
@@ -356,7 +353,8 @@ public final class DuchyBoundsTest {
         }
     }
 
-    private static void fault(Due due, FireTax x, String text, int place, int kind) {
-        due.is("duchy '" + text + "'", Due.duchy(x, text), Due.fault(place, kind));
+    /** On an object of its own: one is used for at most 512 calls. */
+    private static void fault(Due due, String text, int place, int kind) {
+        due.is("duchy '" + text + "'", Due.duchy(new FireTax(), text), Due.fault(place, kind));
     }
 }

@@ -112,8 +112,11 @@ public final class ImageBoundsTest {
 
     /** Gone back to, it is as it was, what can be UNDONE too: all twenty, though others came since. */
     private static void asItWas(Due due) {
+        due.is("as it was", Picture.parting(Picture.all(() -> changedAndBack(due)), Picture.all(ImageBoundsTest::made)), -1);
+    }
+
+    private static FireTax changedAndBack(Due due) {
         FireTax x = made();
-        x.image(2);
         for (int i = 0; i < 30; i++) {
             x.fell(1, 1);
             x.book(-1, 0, 0);
@@ -123,9 +126,7 @@ public final class ImageBoundsTest {
         due.is("another", Due.duchy(x, "duchy 1 1 1;house 1 1 1;officer 0 1;snow 0"), 1);
         x.night();
         due.is("back", x.back(2), 25);
-        FireTax y = made();
-        y.image(2);
-        due.is("as it was", Picture.parting(Picture.all(x), Picture.all(y)), -1);
+        return x;
     }
 
     /** Each of ten books is in the image, though ten others came since. */
@@ -158,6 +159,7 @@ public final class ImageBoundsTest {
             x.night();
             x.book(2 * i, i % 2, i);
         }
+        x.image(2);
         return x;
     }
 }

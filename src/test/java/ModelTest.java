@@ -10,6 +10,9 @@ import java.util.Random;
 public final class ModelTest {
     private static final int RUNS = 400;
     private static final int CALLS = 110;
+    /** An object is used for at most 512 calls: the last ones look at all, and a text takes some thirty. */
+    private static final int CALLS_TO_LOOK = 128;
+    private static final int MOST_MADE = 512 - CALLS_TO_LOOK - 40;
     private static final String[] WORDS = Model.Reader.WORDS.toArray(new String[0]);
     private static final Map<String, Method> FACE = new HashMap<>();
 
@@ -19,6 +22,7 @@ public final class ModelTest {
     private final Due due;
     /** Whether texts are drawn about the bounds of the language. */
     private final boolean atTheBounds;
+    private int made = 0;
 
     private ModelTest(int seed, Due due) {
         this.random = new Random(seed);
@@ -40,7 +44,7 @@ public final class ModelTest {
     }
 
     private void run(int seed) throws Exception {
-        for (int i = 0; i < 4 && seed % 10 != 0 && program.count(3) == 0; i++) {
+        for (int i = 0; i < 4 && seed % 10 != 0 && countNow(3) == 0; i++) {
             tell(duchy());
             ask("duchy");
         }
@@ -48,8 +52,8 @@ public final class ModelTest {
             tell(rule());
             ask("rule");
         }
-        ask("force", program.count(6) - 1);
-        for (int i = 0; i < CALLS; i++) {
+        ask("force", countNow(6) - 1);
+        for (int i = 0; i < CALLS && made < MOST_MADE; i++) {
             one();
         }
         for (int what = 0; what < 16; what++) {
@@ -65,9 +69,25 @@ public final class ModelTest {
 
     private int ask(String call, int... arguments) throws Exception {
         Object[] boxed = Arrays.stream(arguments).boxed().toArray();
+        made++;
         int got = (Integer) FACE.get(call).invoke(program, boxed);
         due.is(call + Arrays.toString(arguments), got, model.answer(call, arguments));
         return got;
+    }
+
+    private int countNow(int what) {
+        made++;
+        return program.count(what);
+    }
+
+    private int houseNow(int house, int what) {
+        made++;
+        return program.house(house, what);
+    }
+
+    private int warmthAhead(int house, int n) {
+        made++;
+        return program.ahead(house, n, 0);
     }
 
     private void tell(String text) throws Exception {
@@ -96,11 +116,11 @@ public final class ModelTest {
     }
 
     private int aHouse() {
-        return from(0, program.count(3) - 1);
+        return from(0, countNow(3) - 1);
     }
 
     private int anOfficer() {
-        return from(0, program.count(5) - 1);
+        return from(0, countNow(5) - 1);
     }
 
     private int nights(int most) {
@@ -108,7 +128,7 @@ public final class ModelTest {
     }
 
     private int besideOf(int house) {
-        int bits = program.house(house, 5);
+        int bits = houseNow(house, 5);
         for (int h = random.nextInt(8), i = 0; i < 8; i++, h = (h + 1) % 8) {
             if (bits > 0 && (bits >> h & 1) != 0 && random.nextInt(15) != 0) {
                 return h;
@@ -123,11 +143,11 @@ public final class ModelTest {
             case 0 -> { tell(random.nextInt(3) == 0 ? duchy() : spoilt(duchy())); ask("duchy"); }
             case 1 -> { tell(rule()); ask("rule"); }
             case 2 -> { tell(spoilt(rule())); ask("rule"); }
-            case 3 -> ask("force", from(-1, program.count(6) - 1));
+            case 3 -> ask("force", from(-1, countNow(6) - 1));
             case 4, 5, 6, 7, 8 -> ask("night");
             case 9 -> ask("fell", h, from(1, 9));
-            case 10, 11 -> ask("lend", h, besideOf(h), from(1, Math.max(1, program.house(h, 0))));
-            case 12 -> ask("hide", h, from(1, Math.max(1, Math.min(30, program.house(h, 0)))));
+            case 10, 11 -> ask("lend", h, besideOf(h), from(1, Math.max(1, houseNow(h, 0))));
+            case 12 -> ask("hide", h, from(1, Math.max(1, Math.min(30, houseNow(h, 0)))));
             case 13 -> ask("lift", anOfficer());
             case 14 -> ask("spit", anOfficer());
             case 15 -> ask("undo");
@@ -143,7 +163,7 @@ public final class ModelTest {
             case 25 -> ask("hats", pick(1, 10, 30, 60, 100, from(1, 400)), from(0, 1));
             case 26, 27 -> ask("loan", h, besideOf(h), nights(60));
             case 28 -> ask("book", random.nextInt(5) == 0 ? -1 : from(0, 60), h, from(0, 999));
-            case 29 -> { int n = from(0, 9); ask("book", n, h, program.count(8) == 0 ? program.ahead(h, n + 1, 0) : from(0, 60)); }
+            case 29 -> { int n = from(0, 9); ask("book", n, h, countNow(8) == 0 ? warmthAhead(h, n + 1) : from(0, 60)); }
             case 30 -> ask("ruled", from(0, 1));
             case 31 -> ask("look", from(0, 60), from(0, 1));
             case 32 -> ask("seed", from(0, Integer.MAX_VALUE - 1));

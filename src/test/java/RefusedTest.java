@@ -33,12 +33,20 @@ public final class RefusedTest {
     }
 
     private static void held(Due due, String state, Supplier<FireTax> maker, List<Call> calls) {
-        List<Integer> without = Picture.all(maker.get());
+        List<Integer> without = Picture.all(maker);
         for (Call call : calls) {
-            FireTax x = maker.get();
-            due.is(state + ": " + call.name(), call.made().applyAsInt(x), call.answer());
-            due.is(state + ": nothing happened by " + call.name(), Picture.parting(Picture.all(x), without), -1);
+            due.is(state + ": " + call.name(), call.made().applyAsInt(maker.get()), call.answer());
+            due.is(state + ": nothing happened by " + call.name(), Picture.parting(Picture.all(with(maker, call.made())), without), -1);
         }
+    }
+
+    /** The object, with a call more that was made on it. */
+    private static Supplier<FireTax> with(Supplier<FireTax> maker, ToIntFunction<FireTax> call) {
+        return () -> {
+            FireTax x = maker.get();
+            call.applyAsInt(x);
+            return x;
+        };
     }
 
     /** Six rules, ten books, 385 bytes, twenty acts to be undone, images 0 to 2; house 2 is frozen, house 3 alone. */
@@ -269,39 +277,36 @@ public final class RefusedTest {
                 x -> x.levy(9999, 0), x -> x.district(1, 0), x -> x.hats(50, 1), x -> x.loan(0, 1, 60), x -> x.loan(1, 0, 9),
                 x -> x.ruled(0), x -> x.ruled(1), x -> x.look(60, 0), x -> x.look(0, 1), x -> x.winters(10, 60, 50, 0),
                 x -> x.winters(3, 9, 100, 1), x -> x.count(14));
-        List<Integer> without = Picture.all(maker.get());
+        List<Integer> without = Picture.all(maker);
+        Supplier<FireTax> all = maker;
         for (int i = 0; i < questions.size(); i++) {
             FireTax x = maker.get();
             int first = questions.get(i).applyAsInt(x);
             due.is(state + ": asked once more, question " + i, questions.get(i).applyAsInt(x), first);
-            due.is(state + ": nothing changed by question " + i, Picture.parting(Picture.all(x), without), -1);
-        }
-        FireTax all = maker.get();
-        for (ToIntFunction<FireTax> question : questions) {
-            question.applyAsInt(all);
+            due.is(state + ": nothing changed by question " + i,
+                    Picture.parting(Picture.all(with(maker, questions.get(i))), without), -1);
+            all = with(all, questions.get(i));
         }
         due.is(state + ": nor by all of them", Picture.parting(Picture.all(all), without), -1);
     }
 
     /** -2 - its FAULT, and all stays, but for the tape, which is empty then. */
     private static void faultsOfADuchy(Due due) {
-        FireTax empty = full();
-        empty.end(0);
-        List<Integer> without = Picture.all(empty);
+        List<Integer> without = Picture.all(with(RefusedTest::full, x -> x.end(0)));
         for (String text : new String[] {"", "duchy 0 0 0;", "duchy 99 9 9;house 1 1 1;house 2 2 2;lane 0 1;officer 0 9;snow 1;x",
             "duchy 101 0 0", "duchy 0 0 0" + ";house 9 9 9".repeat(9), "duchy 0 0 0;duchy 0 0 0", "call 1"}) {
-            FireTax x = full();
-            due.is("a fault of '" + text + "'", Due.duchy(x, text) <= -3 ? 1 : 0, 1);
-            due.is("all stays by '" + text + "'", Picture.parting(Picture.all(x), without), -1);
+            due.is("a fault of '" + text + "'", Due.duchy(full(), text) <= -3 ? 1 : 0, 1);
+            due.is("all stays by '" + text + "'",
+                    Picture.parting(Picture.all(with(RefusedTest::full, x -> Due.duchy(x, text))), without), -1);
         }
     }
 
     private static void faultsOfARule(Due due) {
         for (String text : new String[] {"", "call", "call 1;", "call 1 if", "call 123456", "call 1" + "+1".repeat(60), "duchy 0 0 0",
             "call 1 if " + "[".repeat(11), "call 1;".repeat(12) + "call 1"}) {
-            FireTax x = plain();
-            due.is("a fault of '" + text + "'", Due.rule(x, text) <= -3 ? 1 : 0, 1);
-            due.is("all stays by '" + text + "'", Picture.parting(Picture.all(x), Picture.all(plain())), -1);
+            due.is("a fault of '" + text + "'", Due.rule(plain(), text) <= -3 ? 1 : 0, 1);
+            due.is("all stays by '" + text + "'", Picture.parting(Picture.all(with(RefusedTest::plain, x -> Due.rule(x, text))),
+                    Picture.all(RefusedTest::plain)), -1);
         }
     }
 }

@@ -53,9 +53,9 @@ public final class SharesTest {
     }
 
     private static void levySums(Due due) {
-        FireTax x = Due.land("duchy 0 0 0;house 97 0 0;house 3 0 0;house 51 0 0;house 1 0 0;house 0 0 0;"
-                + "house 51 0 0;house 77 0 0;house 23 0 0");
         for (int much = 0; much <= 9999; much += 101) {
+            FireTax x = Due.land("duchy 0 0 0;house 97 0 0;house 3 0 0;house 51 0 0;house 1 0 0;house 0 0 0;"
+                    + "house 51 0 0;house 77 0 0;house 23 0 0");
             int sum = 0;
             for (int h = 0; h < 8; h++) {
                 sum += x.levy(much, h);

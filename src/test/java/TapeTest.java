@@ -56,8 +56,8 @@ public final class TapeTest {
 
     /** NONE, and none comes, if it would have more than 400; NONE, and nothing happens, if it has not so many. */
     private static void everyLength(Due due) {
-        FireTax x = new FireTax();
         for (int length = 0; length <= 400; length++) {
+            FireTax x = new FireTax();
             Due.tell(x, " ".repeat(length));
             new Edge(due, "end of " + length, x::end).answers(length, length).refuses(0, length, -1);
             due.is("it has", x.count(15), length);
