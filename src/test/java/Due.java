@@ -26,22 +26,22 @@ final class Due {
         }
     }
 
-    /** The text is all that the tape has then. */
-    static void tell(FireTax x, String text) {
-        tell(x, text.getBytes(StandardCharsets.ISO_8859_1));
-    }
-
-    static void tell(FireTax x, byte[] text) {
+    /** The text is all that the tape has then: how many bytes; NONE if there are more than it can have. */
+    static int tell(FireTax x, String text) {
+        byte[] bytes = text.getBytes(StandardCharsets.ISO_8859_1);
         x.end(0);
-        for (int at = 0; at < text.length; at += 20) {
+        for (int at = 0; at < bytes.length; at += 20) {
             int[] n = new int[5];
-            for (int i = 0; i < 20; i++) {
-                int b = at + i < text.length ? text[at + i] & 255 : 0;
-                n[i / 4] = n[i / 4] << 8 | b;
+            for (int i = 0; i < 20 && at + i < bytes.length; i++) {
+                n[i / 4] |= (bytes[at + i] & 255) << 24 - 8 * (i % 4);
             }
             x.feed(n[0], n[1], n[2], n[3], n[4]);
         }
-        x.end(text.length);
+        return x.end(bytes.length);
+    }
+
+    static int tell(FireTax x, byte[] text) {
+        return tell(x, new String(text, StandardCharsets.ISO_8859_1));
     }
 
     static int duchy(FireTax x, String text) {
