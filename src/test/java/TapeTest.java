@@ -9,6 +9,7 @@ public final class TapeTest {
         endKeepsTheFirst(due);
         everyLength(due);
         everyByte(due);
+        firstBytesAlone(due);
         due.end();
     }
 
@@ -67,6 +68,35 @@ public final class TapeTest {
             due.is("to one less", length == 0 ? 0 : x.end(length - 1), Math.max(0, length - 1));
             due.is("no more than that", x.end(length), length == 0 ? 0 : -1);
         }
+    }
+
+    /** The TAPE has its first n bytes alone: what stood behind them is not read, wherever a text is cut. */
+    private static void firstBytesAlone(Due due) {
+        String duchy = "duchy 10 12 34;house 56 78 19;house 12 34 12;lane 0 1;hat 1 12;officer 1 123;snow 12";
+        String rule = "call warmth if not [ since >= 12 or wood <= 34 ] and heat > 1;call 12345 % 678 * room";
+        for (int n = 0; n <= duchy.length(); n++) {
+            FireTax cut = new FireTax();
+            Due.tell(cut, duchy);
+            due.is("cut", cut.end(n), n);
+            due.is("a duchy cut at " + n, cut.duchy(), Due.duchy(new FireTax(), duchy.substring(0, n)));
+        }
+        for (int n = 0; n <= rule.length(); n++) {
+            FireTax cut = new FireTax();
+            Due.tell(cut, rule);
+            due.is("cut", cut.end(n), n);
+            due.is("a rule cut at " + n, cut.rule(), Due.rule(new FireTax(), rule.substring(0, n)));
+        }
+        cutWithin(due, "call 1 if 1=1", 8, Due.fault(7, 0));
+        cutWithin(due, "call 1 if 1<=", 12, Due.fault(12, 0));
+        cutWithin(due, "call room", 8, Due.fault(5, 0));
+        cutWithin(due, "call 123456", 10, 0);
+    }
+
+    private static void cutWithin(Due due, String rule, int n, int answer) {
+        FireTax x = new FireTax();
+        Due.tell(x, rule);
+        x.end(n);
+        due.is(rule + " cut at " + n, x.rule(), answer);
     }
 
     /** Of each number the highest first: a blank in each place of twenty, and a text around it. */

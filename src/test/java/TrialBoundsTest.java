@@ -210,6 +210,8 @@ public final class TrialBoundsTest {
         zero.force(0);
         due.is("110 to 50 in 6 nights", zero.rate(6), 0);
         due.is("below it in 7", zero.rate(7), -2);
+        FireTax oneShort = Due.land("duchy 7 10 50;house 99 1 20;officer 0 200", "call 1");
+        due.is("109 to 49 by 0: by none, nor by less than 0", oneShort.rate(7), -2);
         FireTax x = Due.land("duchy 7 1 1;house 61 0 0");
         new Edge(due, "nights", x::rate).answers(1, 100).answers(59, 100).answers(60, 100).refuses(1, 60, -1);
         FireTax y = Due.land("duchy 7 1 1;house 60 0 0");
