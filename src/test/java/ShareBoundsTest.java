@@ -22,6 +22,13 @@ public final class ShareBoundsTest {
         new Edge(due, "much", much -> x.levy(much, 0)).answers(0, 0).answers(1, 1).answers(9998, 9998).answers(9999, 9999)
                 .refuses(0, 9999, -1);
         new Edge(due, "house", h -> x.levy(9, h)).answers(0, 9).answers(1, 0).refuses(0, 1, -1);
+        FireTax cold = Due.land("duchy 0 0 5;house 20 0 0;house 30 0 0;house 4 0 0");
+        cold.night();
+        due.is("house 2 is frozen", cold.count(9), 4);
+        for (int h = 0; h < 3; h++) {
+            int house = h;
+            new Edge(due, "much, parted, of " + h, much -> cold.levy(much, house)).refuses(0, 9999, -1);
+        }
         FireTax hot = Due.land("duchy 0 0 0;house 99 99 20;house 99 99 20");
         for (int i = 0; i < 45; i++) {
             hot.night();
